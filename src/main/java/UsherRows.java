@@ -238,9 +238,10 @@ public final class UsherRows {
         if (!now.isSoul(i) || k < NONE) {
             return refuseBad(BAD_PLACE);
         }
+        int fitting = cellsThatFit(i);
         int found = 0;
         for (int c = 0; c < CELLS; c++) {
-            if (fitsSightings(i, c)) {
+            if (has(fitting, c)) {
                 if (found == k) {
                     return c;
                 }
@@ -254,10 +255,11 @@ public final class UsherRows {
         if (!now.isSoul(i)) {
             return refuseBad(BAD);
         }
+        int fitting = cellsThatFit(i);
         int bestMinute = NONE;
         int fewest = CELLS + 1;
         for (int t = 0; t < 20; t++) {
-            int most = mostCellsAlike(i, t);
+            int most = mostCellsAlike(fitting, now.soulKinds[i], t);
             if (most > 0 && most < fewest) {
                 fewest = most;
                 bestMinute = t;
@@ -516,11 +518,17 @@ public final class UsherRows {
                 + Kinds.fuss(now.soulKinds[b], now.kneesTo(cellOfB) + kneesOfA, now.minute + 1);
     }
 
-    private boolean fitsSightings(int i, int c) {
-        if (!now.isFree(c)) {
-            return false;
+    private int cellsThatFit(int i) {
+        int bits = 0;
+        for (int c = 0; c < CELLS; c++) {
+            if (now.isFree(c) && fitsSightings(i, now.kneesTo(c))) {
+                bits |= 1 << c;
+            }
         }
-        int knees = now.kneesTo(c);
+        return bits;
+    }
+
+    private boolean fitsSightings(int i, int knees) {
         for (int s = 0; s < now.sightings.size; s++) {
             if (now.sightings.at(s, 0) == i
                     && Kinds.fuss(now.soulKinds[i], knees, now.sightings.at(s, 1)) != now.sightings.at(s, 2)) {
@@ -530,11 +538,11 @@ public final class UsherRows {
         return true;
     }
 
-    private int mostCellsAlike(int i, int t) {
+    private int mostCellsAlike(int fitting, int kind, int minute) {
         tally.reset();
         for (int c = 0; c < CELLS; c++) {
-            if (fitsSightings(i, c)) {
-                tally.add(Kinds.fuss(now.soulKinds[i], now.kneesTo(c), t));
+            if (has(fitting, c)) {
+                tally.add(Kinds.fuss(kind, now.kneesTo(c), minute));
             }
         }
         return tally.most;

@@ -227,7 +227,10 @@ public final class PromiseTest {
         fault("5", 0);
         fault("Hall 0 0 0 0 0;", 0);
         fault("hall\t0 0 0 0 0;", 4);
-        fault("hallo 0 0 0 0 0;", 0);
+        fault("halla 0 0 0 0 0;", 0);
+        fault("hallz 0 0 0 0 0;", 0);
+        fault("tall 0 0 0 0 0;", 0);
+        fault("hail 0 0 0 0 0;", 0);
         String h = "hall 0 0 0 0 0;";
         fault(h + h, 15);
         fault(h + ";", 15);
@@ -259,6 +262,10 @@ public final class PromiseTest {
         fault(h + "`", 15);
         fault(h + "coat/", 19);
         fault(h + "coat:", 19);
+        fault(h + "foul 0 0;", 15);
+        fault(h + "minute 5;", 15);
+        UsherRows x = told(h + "soul 0 0;soul 0 0;");
+        due("of an earlier text nobody is left", write(x, h + "soul 0 0;sit 1 0;"), -10 - 28);
     }
 
     private static void shows() {
@@ -633,6 +640,15 @@ public final class PromiseTest {
         due("count(5)", x.count(5), 5);
         due("status(0)", x.status(0), 11);
         due("status(2)", x.status(2), 1);
+        x = told("hall 0 0 0 0 0;soul 0 0;");
+        for (int c = 1; c < 30; c++) {
+            x.coat(c, 1);
+        }
+        due("the one cell left", x.where(0, 0), 0);
+        due("a minute for one cell", x.tell(0), 0);
+        x.coat(0, 1);
+        due("no cell", x.tell(0), UsherRows.NONE);
+        due("no cell", x.where(0, -1), 0);
     }
 
     private static void noteIsLook() {

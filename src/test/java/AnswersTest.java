@@ -17,6 +17,7 @@ public final class AnswersTest {
         where();
         whereOfSeveral();
         whereFree();
+        whereAsAllSitNow();
         isOfEach();
         look();
         kindsOfEach();
@@ -26,6 +27,7 @@ public final class AnswersTest {
         wet();
         wetStubs();
         evenings();
+        eveningsExactly();
         eveningsByMinute();
         beyondTheLastMinute();
         Desk.end();
@@ -329,6 +331,9 @@ public final class AnswersTest {
         Desk.due("it is there, the other anywhere", x.swaps(), 0);
         x.shows(0, 11);
         Desk.due("a lesser one has come", x.swaps(), 1);
+        x.moves(1, 20);
+        x.moves(0, 7);
+        Desk.due("the least is there, the others anywhere", x.swaps(), 0);
         x.sends(0);
         x.sends(1);
         Desk.due("the last alone", x.swaps(), 1);
@@ -418,11 +423,41 @@ public final class AnswersTest {
         }
         Desk.due("none", x.where(0, 0), -5);
         Desk.due("tell", x.tell(0), -1);
+        for (int c = 0; c < 30; c++) {
+            x.coat(c, 0);
+            Desk.due("one alone", x.where(0, 0), c);
+            Desk.due("how many", x.where(0, -1), 1);
+            Desk.due("tell", x.tell(0), 0);
+            x.coat(c, 1);
+        }
         x.coat(29, 0);
-        Desk.due("the last alone", x.where(0, 0), 29);
         x.shows(0, 29);
         Desk.due("somebody sits there", x.where(0, -1), 0);
         Desk.due("tell of one who sits", x.tell(0), -1);
+    }
+
+    /** What was seen goes by how all sit when it is asked, not by how they sat. */
+    private static void whereAsAllSitNow() {
+        Desk.part("promises 22 to 24, as all sit now");
+        UsherRows x = Desk.told("hall 0 0 0 0 0;soul 5 0;soul 0 0;soul 0 0;sit 1 0;");
+        x.seen(0, 10, 5);
+        Desk.due("past one", x.where(0, -1), 5);
+        Desk.due("the first", x.where(0, 0), 1);
+        x.shows(2, 1);
+        Desk.due("past two behind it", x.where(0, -1), 0);
+        Desk.due("no cell", x.tell(0), -1);
+        x.moves(2, 27);
+        Desk.due("past one in two rows", x.where(0, -1), 7);
+        Desk.due("the last", x.where(0, 6), 29);
+        x.sends(1);
+        Desk.due("in the last row alone", x.where(0, -1), 2);
+        Desk.due("the first", x.where(0, 0), 28);
+        x.coat(28, 1);
+        Desk.due("a coat keeps one of them", x.where(0, 0), 29);
+        x.sends(2);
+        Desk.due("past nobody", x.where(0, -1), 0);
+        x.undo();
+        Desk.due("as it was", x.where(0, -1), 1);
     }
 
     private static void isOfEach() {
@@ -648,6 +683,24 @@ public final class AnswersTest {
         Desk.due("shown in", x.evenings(7, 1), 1);
         Desk.due("and sent out", x.evenings(7, 2), 2);
         Desk.due("what was stays", x.of(6, 2), -1);
+    }
+
+    /** Seeds whose X, once made, is just at a multiple of 1048576 or 65536, or just below one: who it is, and where. */
+    private static void eveningsExactly() {
+        Desk.part("promise 34, cut");
+        int[][] due = {{501379, 4, 15}, {899870, 0, 12}, {42627, 1, 23}, {47902, 2, 24}, {388515, 0, 0}, {518020, 0, 7}};
+        for (int[] d : due) {
+            UsherRows x = new UsherRows();
+            for (int i = 0; i < 7; i++) {
+                x.soul(i == d[1] ? 1 : 0, 0);
+            }
+            Desk.due("soul " + d[1] + " by " + d[0], x.evenings(d[0], 1), 2);
+            for (int c = 0; c < 30; c++) {
+                x.coat(c, 1);
+                Desk.due("cell " + d[2] + " by " + d[0] + ", a coat on " + c, x.evenings(d[0], 1), c == d[2] ? 0 : 2);
+                x.coat(c, 0);
+            }
+        }
     }
 
     /** By seed 21: soul 3, who is not there; soul 0 to cell 3; soul 0 again. By 6: soul 3, then soul 0 to cell 4. */

@@ -5,6 +5,7 @@ public final class TextTest {
 
     public static void main(String[] args) {
         length();
+        clearedBytes();
         cutShort();
         everyByte();
         words();
@@ -73,6 +74,33 @@ public final class TextTest {
         fault(HALL + blanks(131) + "coat", 150);
         fault("hall" + blanks(146), 150);
         fault("!" + blanks(149), 0);
+        fault(HALL + blanks(129) + "coat 1", 150);
+        fault(HALL + blanks(131) + "soul", 150);
+        fault(HALL + blanks(131) + "sout", 146);
+        reads(HALL + blanks(128) + "coat 1;", 2);
+    }
+
+    /** What was typed ahead of a clear is gone, behind the text's end, too. */
+    private static void clearedBytes() {
+        Desk.part("promises 6, 7, bytes of an earlier text");
+        cleared("hall 0000", "hall 0", -10 - 6);
+        cleared("hall 0 0 0 0 00;", "hall 0 0 0 0 0", -10 - 14);
+        cleared("hallhall", "hall", -10 - 4);
+        cleared("hall 0 0 0 0 0;", "hall 0 0 0 0 0", -10 - 14);
+        cleared(HALL + "coat 5;", HALL, 1);
+        cleared(HALL + "coat 5;", HALL + "coat", -10 - 19);
+        cleared(HALL + "!", HALL + " ", 1);
+        cleared(HALL, "", -10);
+        cleared(HALL, "   ", -10 - 3);
+    }
+
+    private static void cleared(String earlier, String text, int due) {
+        UsherRows x = new UsherRows();
+        Desk.type(x, earlier);
+        Desk.due("clear", x.clear(), earlier.length());
+        Desk.type(x, text);
+        Desk.due("read of '" + text + "' behind '" + earlier + "'", x.read(), due);
+        Desk.due("bytes", x.count(9), text.length());
     }
 
     /** Up to each byte of a text that is right: an end inside of a word leaves a word that is none. */

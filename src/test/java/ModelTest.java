@@ -459,7 +459,7 @@ public final class ModelTest {
             return what == 0 ? byFuss.firstKey() : byFuss.firstEntry().getValue().first();
         }
 
-        /** By trying swaps breadth first, among the cells that matter and one more. */
+        /** By trying swaps breadth first, among the cells that matter; by rings, if that would take long (SwapsTest tries those). */
         long swaps() {
             TreeMap<Integer, Soul> owners = new TreeMap<>();
             for (Soul s : w.souls) {
